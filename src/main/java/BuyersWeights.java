@@ -215,7 +215,7 @@ public final class BuyersWeights {
         if (!market.isOpen()) {
             return STATE;
         }
-        keptMarket.copyFrom(market);
+        keptMarket.copyDoingsOf(market);
         keptLedger.copyFrom(ledger);
         imageKept = true;
         return market.hourNow;
@@ -225,7 +225,7 @@ public final class BuyersWeights {
         if (!imageKept) {
             return STATE;
         }
-        market.copyFrom(keptMarket);
+        market.copyDoingsOf(keptMarket);
         ledger.copyFrom(keptLedger);
         return market.hourNow;
     }
@@ -465,14 +465,11 @@ public final class BuyersWeights {
             return all;
         }
 
-        void copyFrom(Market other) {
-            houses = other.houses;
-            tilt = other.tilt;
+        /** Houses, kinds, coins and tilt are left out: they stay the same as long as an image holds. */
+        void copyDoingsOf(Market other) {
             hourNow = other.hourNow;
             sales = other.sales;
-            copyRow(other.kinds, kinds);
             copyRow(other.stones, stones);
-            copyRow(other.coins, coins);
             copyRow(other.got, got);
             copyRow(other.paid, paid);
             copyRow(other.dealt, dealt);

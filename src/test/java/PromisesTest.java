@@ -140,6 +140,7 @@ public final class PromisesTest {
     private static void anotherMarket() {
         BuyersWeights x = Check.marketOf("m99,o99,r99,w99;3");
         x.buy(1, 0, 1);
+        x.buy(0, 1, 0);
         x.hour();
         x.pass(0);
         x.lose(7);
@@ -440,6 +441,9 @@ public final class PromisesTest {
         due("15: none", x.count(7), 0);
         due("15: lost nothing", x.count(8), 0);
         due("15: all sets", x.rubbed(0), 8);
+        x.pass(0);
+        due("15: one hand", x.clear(), 1);
+        due("15: all sets again", x.rubbed(0), 8);
         due("15: from the start", x.pass(0), 1);
         due("15: no market", new BuyersWeights().clear(), 0);
     }
@@ -501,6 +505,7 @@ public final class PromisesTest {
         due("18: ounces", x.markets(20, 77, 0), 186);
         due("18: stones", x.markets(20, 77, 1), 31);
         due("18: seed", x.markets(20, 77, 2), 387832273);
+        due("18: ounces again", x.markets(20, 77, 0), 186);
         due("18: nothing is changed", x.digest(), before);
         due("18: no sale", x.markets(0, 1, 0), OUTSIDE);
         due("18: too many", x.markets(61, 1, 0), OUTSIDE);
