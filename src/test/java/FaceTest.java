@@ -39,8 +39,7 @@ public final class FaceTest {
                 check.due(method + " bears no name of the face", isNameOfFace(method.getName()) ? 1 : 0, 0);
             }
         }
-        System.out.println("methods: " + seen);
-        check.due("the public methods", seen.equals(new TreeSet<>(METHODS)) ? 1 : 0, 1);
+        check.due("the public methods, there are " + seen + ",", seen.equals(new TreeSet<>(METHODS)) ? 1 : 0, 1);
     }
 
     private static void checkFields(Check check) {
